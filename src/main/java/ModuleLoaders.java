@@ -61,9 +61,6 @@ public final class ModuleLoaders {
         if (flags < 0 || flags > ALL_FLAGS) {
             return BAD;
         }
-        if (files.size >= MOST_FILES) {
-            return FULL;
-        }
         return files.add(inner, content, parent, need, flags);
     }
 
@@ -75,9 +72,6 @@ public final class ModuleLoaders {
             if (loaders.gone[above]) {
                 return NO;
             }
-        }
-        if (loaders.size >= MOST_LOADERS) {
-            return FULL;
         }
         return loaders.add(above, own);
     }
@@ -150,7 +144,7 @@ public final class ModuleLoaders {
         if (loaders.gone[modules.maker[module]]) {
             return NO;
         }
-        if (things.size >= MOST_THINGS) {
+        if (things.areFull()) {
             return FULL;
         }
         int answer = beginFrom(module);
@@ -340,12 +334,11 @@ public final class ModuleLoaders {
     }
 
     private int stand(int loader, int name, int file, int parent) {
-        // No run of MOST_CALLS calls comes here with full rows.
-        if (modules.size >= MOST_MODULES) {
-            return FULL;
-        }
         int module = modules.add(loader, name, file, parent);
-        loaders.made[slot(loader, name)] = module;
+        // It can be FULL only after more than MOST_CALLS calls.
+        if (module >= 0) {
+            loaders.made[slot(loader, name)] = module;
+        }
         return module;
     }
 
@@ -567,8 +560,12 @@ public final class ModuleLoaders {
             return number >= 0 && number < size;
         }
 
+        boolean areFull() {
+            return size >= MOST_THINGS;
+        }
+
         int add(int module) {
-            if (size >= MOST_THINGS) {
+            if (areFull()) {
                 return FULL;
             }
             kind[size] = module;

@@ -12,6 +12,7 @@ public final class HoldingTest {
         heldByThings();
         heldAsGiven();
         heldAsParent();
+        heldWithAllLoaders();
         wrongHelds();
         aboutThings();
         due.end();
@@ -197,6 +198,25 @@ public final class HoldingTest {
         x.drop(0);
         for (int module = 0; module < 4; module++) {
             due.is("15 none is", x.isHeld(module), 0);
+        }
+    }
+
+    private static void heldWithAllLoaders() {
+        ModuleLoaders x = new ModuleLoaders();
+        Due.plain(x, 0, 1);
+        Due.plain(x, 30, 2);
+        for (int l = 0; l < 10; l++) {
+            Due.library(x);
+            x.define(l, 0, 0);
+            x.define(l, 30, 1);
+        }
+        for (int l = 1; l < 10; l += 2) {
+            x.letGo(l);
+        }
+        for (int l = 0; l < 10; l++) {
+            due.is("14 loader " + l, x.held(l), l % 2 == 0 ? 2 : 0);
+            due.is("15 its first name", x.isHeld(2 * l), l % 2 == 0 ? 1 : 0);
+            due.is("15 its last name", x.isHeld(2 * l + 1), l % 2 == 0 ? 1 : 0);
         }
     }
 
