@@ -29,8 +29,8 @@ public final class ModuleLoaders {
     private static final int MOST_LOADERS = 10;
     private static final int MOST_THINGS = 60;
     private static final int MOST_CALLS = 512;
-    /** A loader MAKES one of a name but once, and one more for a call of anew: no run needs more. */
-    private static final int MOST_MODULES = MOST_LOADERS * NAMES + MOST_CALLS;
+    /** Each has a call of its own: define, anew, or the put for its name on its loader's SHELF. */
+    private static final int MOST_MODULES = MOST_CALLS;
     /** A PROGRAM and its LIBRARY may both be MAKING, each of them a name but once at a time. */
     private static final int MOST_MAKING = 2 * NAMES;
 
