@@ -38,10 +38,18 @@ final class Twins {
     void then(String what, String setup, String call, int want, String then) {
         ModuleLoaders x = made(what, setup);
         due.is(what + ": " + call, Script.call(x, call), want);
-        for (String line : Script.calls(then)) {
+        each(what + ": after " + call + ", ", x, then);
+    }
+
+    /** A run on a new object, each call told with its answer ("call = answer"). */
+    void run(String what, String lines) {
+        each(what + ": ", new ModuleLoaders(), lines);
+    }
+
+    private void each(String what, ModuleLoaders x, String lines) {
+        for (String line : Script.calls(lines)) {
             String[] both = line.split("=");
-            due.is(what + ": after " + call + ", " + both[0].strip(), Script.call(x, both[0]),
-                    Integer.parseInt(both[1].strip()));
+            due.is(what + both[0].strip(), Script.call(x, both[0]), Integer.parseInt(both[1].strip()));
         }
     }
 
